@@ -50,13 +50,10 @@ public final class DoorWalk {
     private final Grid trial = new Grid();
     private final Doors doors = new Doors();
     private final History history = new History();
+    /** Made when first kept, and used again from then on. */
     private final State[] kept = new State[MOST_KEPT];
-    private final boolean[] isKept = new boolean[MOST_KEPT];
 
     public DoorWalk() {
-        for (int i = 0; i < MOST_KEPT; i++) {
-            kept[i] = new State();
-        }
     }
 
     // ---- texts
@@ -270,7 +267,7 @@ public final class DoorWalk {
         }
         doors.enter(now.grid, kind, place);
         int last = doors.last();
-        row.tell(last, now.grid.turn(last) == 0 ? 0 : 1, outDoor(kind));
+        row.tell(last, now.grid.turn(last) == 0 ? 0 : 1, doors.outDoor(now.grid, kind));
         return doors.length;
     }
 
@@ -297,11 +294,11 @@ public final class DoorWalk {
         int edge = doors.nextDoor(g, number, kind, NONE);
         int behind = g.beyond(number, edge);
         if (behind == NONE) {
-            row.tell(number, doors.numberOfOuter(g, kind, number));
+            row.tell(number, doors.outersBefore(g, kind, g.sidePlace(kind, number)));
             return 0;
         }
         doors.follow(g, kind, behind, edge);
-        row.tell(doors.last(), outDoor(kind));
+        row.tell(doors.last(), doors.outDoor(g, kind));
         return doors.length;
     }
 
@@ -647,13 +644,15 @@ public final class DoorWalk {
         if (i < 0 || i >= MOST_KEPT) {
             return false;
         }
+        if (kept[i] == null) {
+            kept[i] = new State();
+        }
         kept[i].copy(now);
-        isKept[i] = true;
         return true;
     }
 
     public boolean again(int i) {
-        if (i < 0 || i >= MOST_KEPT || !isKept[i]) {
+        if (i < 0 || i >= MOST_KEPT || kept[i] == null) {
             return false;
         }
         now.copy(kept[i]);
@@ -894,6 +893,7 @@ public final class DoorWalk {
             return NOT_SO;
         }
         r.setAmount(trader, good, v);
+        r.setPulls();
         r.layOn(now.grid);
         return was;
     }
@@ -927,11 +927,6 @@ public final class DoorWalk {
     private void layTrial(int n) {
         trial.size = n;
         now.rule.layOn(trial);
-    }
-
-    /** The OUTER DOOR through which the way followed last came out. */
-    private int outDoor(int kind) {
-        return doors.cameOut ? doors.numberOfOuter(now.grid, kind, doors.last()) : NONE;
     }
 
     /** The first other LABEL of a POINT of a FULL CELL by which there are no fewer FULL ones. */
@@ -1129,7 +1124,7 @@ public final class DoorWalk {
         }
 
         boolean isCell(int number) {
-            return number >= 0 && number < numbers() && cellI(number) + cellJ(number) + (number & 1) < size;
+            return number >= 0 && number < 2 * size * size && cellI(number) + cellJ(number) + (number & 1) < size;
         }
 
         int cellI(int number) {
@@ -1338,6 +1333,7 @@ public final class DoorWalk {
             return isDoor(g, g.sideCell(kind, place), sideEdge(kind), kind);
         }
 
+        /** So many OUTER DOORS lie before a place; it is the number of the one that lies there. */
         int outersBefore(Grid g, int kind, int place) {
             int many = 0;
             for (int t = 0; t < place; t++) {
@@ -1362,11 +1358,6 @@ public final class DoorWalk {
                 }
             }
             return NONE;
-        }
-
-        /** The number of the OUTER DOOR of a CELL that has one. */
-        int numberOfOuter(Grid g, int kind, int number) {
-            return outersBefore(g, kind, g.sidePlace(kind, number));
         }
 
         // ---- ways
@@ -1399,6 +1390,11 @@ public final class DoorWalk {
 
         int last() {
             return cellOfWay(length - 1);
+        }
+
+        /** The OUTER DOOR through which the way came out; NONE if it did not. */
+        int outDoor(Grid g, int kind) {
+            return cameOut ? outersBefore(g, kind, g.sidePlace(kind, last())) : NONE;
         }
 
         /** How many CELLS one goes through from one CELL through an edge to another; NONE if it does not come there. */
@@ -1513,7 +1509,6 @@ public final class DoorWalk {
             int at = GOODS * trader + good;
             if (at >= 0 && at < owned.length) {
                 owned[at] = v;
-                setPulls();
             }
         }
 
@@ -1620,23 +1615,24 @@ public final class DoorWalk {
         }
     }
 
-    /** States that undo() goes back to, in a ring with one place to spare for a call that may yet be refused. */
+    /**
+     * States that undo() goes back to, in a ring with one place to spare for a call that may yet be refused. They are
+     * made when the ring first comes to them, and used again from then on.
+     */
     private static final class History {
         final State[] ring = new State[MOST_UNDONE + 1];
         int next = 0;
         int size = 0;
 
-        History() {
-            for (int k = 0; k < ring.length; k++) {
-                ring[k] = new State();
-            }
-        }
-
         /** Writes a state down in the spare place; it counts once it is held. */
         void note(State state) {
-            if (next >= 0 && next < ring.length) {
-                ring[next].copy(state);
+            if (next < 0 || next >= ring.length) {
+                return;
             }
+            if (ring[next] == null) {
+                ring[next] = new State();
+            }
+            ring[next].copy(state);
         }
 
         void hold() {
@@ -1650,7 +1646,7 @@ public final class DoorWalk {
             }
             size--;
             next = (next + MOST_UNDONE) % ring.length;
-            if (next >= 0 && next < ring.length) {
+            if (next >= 0 && next < ring.length && ring[next] != null) {
                 state.copy(ring[next]);
             }
             return true;

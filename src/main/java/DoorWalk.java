@@ -40,6 +40,7 @@ public final class DoorWalk {
     private static final int[] CORNER_J = {0, 0, 1};
 
     /** The six CELLS round a POINT as seen from it. */
+    private static final int ROUND = 6;
     private static final int[] ROUND_I = {0, -1, 0, -1, 0, -1};
     private static final int[] ROUND_J = {0, 0, -1, -1, -1, 0};
     private static final int[] ROUND_DOWN = {0, 0, 0, 1, 1, 1};
@@ -245,6 +246,9 @@ public final class DoorWalk {
         int one = 0;
         int two = 0;
         for (int c = 0; c < g.numbers(); c++) {
+            if (!g.isCell(c)) {
+                continue;
+            }
             int own = 0;
             for (int e = 0; e < GOODS; e++) {
                 if (doors.isDoor(g, c, e, kind)) {
@@ -526,9 +530,8 @@ public final class DoorWalk {
         trial.copy(g);
         trial.put(i, j, v);
         int fresh = 0;
-        for (int k = 0; k < ROUND_I.length; k++) {
-            int c = g.cellRound(i, j, k);
-            fresh += trial.turn(c) != 0 && g.turn(c) == 0 ? 1 : 0;
+        for (int k = 0; k < ROUND; k++) {
+            fresh += trial.turnRound(i, j, k) != 0 && g.turnRound(i, j, k) == 0 ? 1 : 0;
         }
         trial.survey();
         row.tell(trial.turns, fresh);
@@ -1176,10 +1179,20 @@ public final class DoorWalk {
 
         /** TURN; 0 if it is not FULL, or no CELL. */
         int turn(int number) {
-            if (!isCell(number)) {
+            return isCell(number) ? turnAt(cellI(number), cellJ(number), number & 1) : 0;
+        }
+
+        /** TURN of UP (i, j), or DOWN (i, j); 0 if it is not FULL, or no CELL. */
+        int turnAt(int i, int j, int down) {
+            if (i < 0 || j < 0 || i + j + down >= size) {
                 return 0;
             }
-            return turnOf(cornerLabel(number, 0), cornerLabel(number, 1), cornerLabel(number, 2));
+            int here = numberOf(i, j);
+            int over = overOf(i, here);
+            if (down == 0) {
+                return turnOf(labelOfNumber(here), labelOfNumber(over), labelOfNumber(here + 1));
+            }
+            return turnOf(labelOfNumber(over + 1), labelOfNumber(here + 1), labelOfNumber(over));
         }
 
         static int turnOf(int a, int b, int c) {
@@ -1197,13 +1210,8 @@ public final class DoorWalk {
             lastFull = NONE;
             for (int i = 0; i < size; i++) {
                 for (int j = 0; j < size - i; j++) {
-                    int here = numberOf(i, j);
-                    int over = overOf(i, here);
-                    int beside = labelOfNumber(here + 1);
-                    take(cellAt(i, j, 0), turnOf(labelOfNumber(here), labelOfNumber(over), beside));
-                    if (i + j + 1 < size) {
-                        take(cellAt(i, j, 1), turnOf(labelOfNumber(over + 1), beside, labelOfNumber(over)));
-                    }
+                    take(2 * (size * i + j), turnAt(i, j, 0));
+                    take(2 * (size * i + j) + 1, turnAt(i, j, 1));
                 }
             }
         }
@@ -1256,15 +1264,15 @@ public final class DoorWalk {
 
         int fullRound(int i, int j) {
             int many = 0;
-            for (int k = 0; k < ROUND_I.length; k++) {
-                many += turn(cellRound(i, j, k)) == 0 ? 0 : 1;
+            for (int k = 0; k < ROUND; k++) {
+                many += turnRound(i, j, k) == 0 ? 0 : 1;
             }
             return many;
         }
 
-        /** One of the six CELLS round a POINT; NONE if it would be outside. */
-        int cellRound(int i, int j, int k) {
-            return k < 0 || k >= ROUND_I.length ? NONE : cellAt(i + ROUND_I[k], j + ROUND_J[k], ROUND_DOWN[k]);
+        /** TURN of one of the six CELLS round a POINT. */
+        int turnRound(int i, int j, int k) {
+            return k < 0 || k >= ROUND ? 0 : turnAt(i + ROUND_I[k], j + ROUND_J[k], ROUND_DOWN[k]);
         }
 
         // ---- edges of CELLS: edge k is the one that lacks corner k; both its CELLS call it k
@@ -1303,10 +1311,8 @@ public final class DoorWalk {
         boolean cameOut = false;
         int longest = 0;
 
+        /** Whether an edge of a CELL that there is is a DOOR. */
         boolean isDoor(Grid g, int number, int edge, int kind) {
-            if (!g.isCell(number)) {
-                return false;
-            }
             int a = g.cornerLabel(number, (edge + 1) % GOODS);
             int b = g.cornerLabel(number, (edge + 2) % GOODS);
             return a != b && a != kind && b != kind;

@@ -16,6 +16,7 @@ public final class ChangesTest {
         dayRefused();
         undo();
         undoOfEach();
+        undoOneBehindAnother();
         undoOfEight();
         years();
         yearsAreForgotten();
@@ -155,6 +156,10 @@ public final class ChangesTest {
         Check.due("RULE 1 again", x.count(3), 1);
         x.amounts(0, 1, 1);
         Check.due("the AMOUNT is as it was", x.amounts(0, 1, 1), -2);
+        // (3, 1) has 0, (1, 3) has 1
+        Check.due("each pair of digits", day(x, "s03010103"), 1);
+        Check.told("each pair of digits", x, "22111" + "2210" + "000" + "01" + "0");
+        x.undo();
         Check.due("two digits", day(x, "g16g10"), 2);
         Check.due("GRID", x.count(0), 10);
     }
@@ -256,6 +261,38 @@ public final class ChangesTest {
         Check.due("exchange() is undone", x.undo(), 0);
         Check.told("exchange() is undone", x, FIRST);
         Check.due("TRADERS", x.count(4), 0);
+    }
+
+    /** Each of several is undone to what was ahead of it, not to what was ahead of another. */
+    private static void undoOneBehindAnother() {
+        DoorWalk x = Check.exchange("111111;123456");
+        String[] told = new String[8];
+        for (int k = 0; k < 8; k++) {
+            told[k] = Check.told(x);
+            switch (k) {
+                case 0, 1 -> x.grid(5 - k % 2);
+                case 2, 3 -> x.amounts(0, 0, 9 - k);
+                case 4, 5 -> x.lays(1, 1, (x.label(1, 1) + 1) % 3);
+                default -> Check.due("swaps()", x.swaps(1, 3, 3, 1) > 0, true);
+            }
+        }
+        Check.due("eight", x.count(6), 8);
+        for (int k = 7; k >= 0; k--) {
+            Check.due("undo()", x.undo(), k);
+            Check.told("undo() of " + k, x, told[k]);
+        }
+        Check.due("AMOUNT 0 of TRADER 0", x.amounts(0, 0, 1), -2);
+        Check.text(x, "222111;333222;999999");
+        x.exchange();
+        x.undo();
+        Check.due("TRADERS", x.count(4), 2);
+        Check.due("WISHES too: sells(1, 2, 1)", x.sells(1, 2, 1), 3);
+        Check.due("WISHES too: sells(1, 2, 2)", x.sells(1, 2, 2), 0);
+        x.amounts(0, 0, 2);
+        x.excess(1, 2);
+        DoorWalk y = Check.exchange("211111;123456");
+        y.excess(1, 2);
+        Check.row("EXCESS by AMOUNTS and WISHES as they were", x, y.row(0), y.row(1), y.row(2), y.row(3));
     }
 
     private static void undoOfEight() {

@@ -219,6 +219,9 @@ public final class DoorsTest {
         x = new DoorWalk();
         Check.due("all come to 0", x.crossed(), 1);
         Check.row("it is FULL", x, 1);
+        x.lays(1, 1, 2);
+        Check.due("no more", x.crossed(), 0);
+        Check.row("no more", x, 0);
     }
 
     private static void leads() {

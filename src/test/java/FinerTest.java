@@ -80,6 +80,28 @@ public final class FinerTest {
         Check.due("all CELLS together", sum, all.finer(8));
     }
 
+    /** inner() against finer() of each n. */
+    private static void oneByOne(String signs) {
+        DoorWalk x = Check.exchange(signs);
+        int due = -2;
+        long cell = -1;
+        for (int n = 4; n <= 16 && due == -2; n++) {
+            x.finer(n);
+            int c = (int) x.row(1);
+            int i = c / 2 / n;
+            int j = c / 2 % n;
+            // no corner has a PRICE of 0: PRICE 2 is least at i and j together, and 1 for UP ones, 2 for DOWN ones
+            if (i > 0 && j > 0 && i + j + 1 + c % 2 < n) {
+                due = n;
+                cell = c;
+            }
+        }
+        Check.due("inner() of " + signs, x.inner(), due);
+        if (due != -2) {
+            Check.row("inner() of " + signs, x, cell);
+        }
+    }
+
     private static void inner() {
         DoorWalk x = Check.exchange("111111");
         Check.due("from N on", x.inner(), 4);
@@ -96,6 +118,9 @@ public final class FinerTest {
         DoorWalk first = new DoorWalk();
         Check.due("RULE 0", first.inner(), -3);
         Check.row("the ROW stays", first);
+        for (String signs : new String[] {"113311", "112131", "123456", "999911", "100999;910111"}) {
+            oneByOne(signs);
+        }
         none.grid(16);
         Check.due("GRID 16", none.inner(), -2);
         x.grid(16);

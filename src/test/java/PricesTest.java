@@ -44,10 +44,20 @@ public final class PricesTest {
         x.grid(3);
         Check.due("best()", x.best(), 5);
         Check.row("best()", x, 1, 1, 0);
+        // no TRADER has income at a corner, and none has of what has a PRICE there
+        atCorner("110111", 0, 0, 0);
+        atCorner("101111", 4, 0, 4);
+        atCorner("011111", 14, 4, 0);
         x = Check.exchange("999911");
         // 9 times 36 - 11 PRICE 0, 4 - 11 PRICE 1, 4 - 11 PRICE 2: at (4, 0) 8 is the greatest, at (3, 0) 7
         Check.due("near a corner", x.best(), 12);
         Check.row("near a corner", x, 3, 0, 9 * 7);
+    }
+
+    private static void atCorner(String signs, int number, int i, int j) {
+        DoorWalk x = Check.exchange(signs);
+        Check.due("best() of " + signs, x.best(), number);
+        Check.row("best() of " + signs, x, i, j, 0);
     }
 
     private static void clears() {
@@ -61,18 +71,33 @@ public final class PricesTest {
         x = Check.exchange("000111");
         Check.due("of equal ones the first CELL", x.clears(), 0);
         Check.row("of equal ones the first CELL", x, 0, 0, 0, 0);
-        x = Check.exchange("999911");
-        Check.due("GRID 4: " + Check.told(x), x.clears() >= 0, true);
+        // at (1, 2) EXCESSES are -3, -3, 6; at (1, 1), which is of no FULL CELL, they are -1, 4, -3
+        x = Check.exchange("213113");
+        Check.due("UP (0, 2)", x.clears(), 4);
+        Check.row("its second POINT; one is less OFF", x, 1, 2, 6, 1);
+        Check.due("best()", x.best(), 6);
+        lessOff("133131", 4);
+        lessOff("331223", 4);
+        lessOff("999911", 7);
+        lessOff("100999;910111", 6);
+        lessOff("010999;901111", 6);
+    }
+
+    /** How many POINTS are less OFF, counted one by one. */
+    private static void lessOff(String signs, int n) {
+        DoorWalk x = Check.exchange(signs);
+        x.grid(n);
+        x.clears();
         long off = x.row(2);
+        long told = x.row(3);
         int less = 0;
-        for (int i = 0; i <= 4; i++) {
-            for (int j = 0; j <= 4 - i; j++) {
+        for (int i = 0; i <= n; i++) {
+            for (int j = 0; j <= n - i; j++) {
                 x.excess(i, j);
                 less += x.row(3) < off ? 1 : 0;
             }
         }
-        x.clears();
-        Check.due("POINTS that are less OFF", x.row(3), less);
+        Check.due("POINTS that are less OFF", told, less);
     }
 
     private static void sells() {

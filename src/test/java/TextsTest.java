@@ -103,7 +103,10 @@ public final class TextsTest {
         wrongLabels("x1210", -1);
         wrongLabels("0", -2);
         wrongLabels("0x", -2);
+        wrongLabels("1x", -2);
         wrongLabels("00", -2);
+        wrongLabels("002", -2);
+        wrongLabels("0012", -2);
         wrongLabels("11", -2);
         wrongLabels("25", -2);
         wrongLabels("01", -3);

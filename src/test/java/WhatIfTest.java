@@ -7,7 +7,97 @@ public final class WhatIfTest {
         were();
         hangs();
         lone();
+        for (String signs : SOME) {
+            oneByOne(signs);
+        }
         Check.finish();
+    }
+
+    private static final String[] SOME = {
+        "03" + "2111" + "020" + "00" + "0",
+        "03" + "2121" + "010" + "01" + "0",
+        "04" + "21211" + "0001" + "200" + "21" + "0",
+        "04" + "22211" + "2020" + "220" + "00" + "0",
+        "04" + "21111" + "0010" + "000" + "00" + "0",
+        "04" + "22221" + "0121" + "201" + "20" + "0",
+        "05" + "211111" + "00000" + "0120" + "000" + "00" + "0"};
+
+    /** were(), hangs() and lone() against lays() of each other LABEL, on an object of its own. */
+    private static void oneByOne(String signs) {
+        DoorWalk x = Check.labels(signs);
+        int n = x.count(0);
+        int full = x.count(5);
+        int[][] then = new int[x.count(1)][3];
+        int first = -1;
+        for (int i = 0; i <= n; i++) {
+            for (int j = 0; j <= n - i; j++) {
+                for (int v = 0; v < 3; v++) {
+                    int p = x.point(i, j);
+                    then[p][v] = after(signs, i, j, v);
+                    if (then[p][v] == 1 && first == -1) {
+                        first = 3 * p + v;
+                    }
+                }
+            }
+        }
+        for (int c = 0; c < 2 * n * n; c++) {
+            if (x.cell(c) == 1) {
+                hangsOneByOne(x, c, full, then);
+            }
+        }
+        if (full > 1) {
+            Check.due("lone() of " + signs, x.lone(), first == -1 ? -2 : 1);
+            if (first != -1) {
+                Check.row("lone() of " + signs, x, full, first / 3, first % 3);
+            }
+        }
+    }
+
+    private static void hangsOneByOne(DoorWalk x, int c, int full, int[][] then) {
+        int n = x.count(0);
+        int i = c / 2 / n;
+        int j = c / 2 % n;
+        int[][] points = c % 2 == 0 ? new int[][] {{i, j}, {i + 1, j}, {i, j + 1}} : new int[][] {{i + 1, j + 1}, {i, j + 1}, {i + 1, j}};
+        long[] firsts = {-1, -1, -1};
+        int many = 0;
+        for (int k = 0; k < 3; k++) {
+            int p = x.point(points[k][0], points[k][1]);
+            int was = x.label(points[k][0], points[k][1]);
+            for (int v = 2; v >= 0; v--) {
+                if (v != was && then[p][v] >= full) {
+                    firsts[k] = v;
+                }
+            }
+            many += firsts[k] == -1 ? 0 : 1;
+        }
+        Check.due("hangs(" + c + ")", x.hangs(c), many);
+        Check.row("hangs(" + c + ")", x, firsts);
+    }
+
+    /** FULL CELLS once a LABEL is laid, which were() has to tell ahead; -1 if it can't be. */
+    private static int after(String signs, int i, int j, int v) {
+        DoorWalk x = Check.labels(signs);
+        int n = x.count(0);
+        int would = x.were(i, j, v);
+        if (would < 0) {
+            Check.due("lays(" + i + ", " + j + ", " + v + ")", x.lays(i, j, v), -4);
+            return -1;
+        }
+        long turns = x.row(0);
+        long fresh = x.row(1);
+        int[] before = new int[2 * n * n];
+        for (int c = 0; c < before.length; c++) {
+            before[c] = x.cell(c);
+        }
+        x.lays(i, j, v);
+        for (int c = 0; c < before.length; c++) {
+            fresh -= x.cell(c) == 1 && before[c] == 0 ? 1 : 0;
+        }
+        String what = "were(" + i + ", " + j + ", " + v + ") of " + signs;
+        Check.due(what, would, x.full());
+        Check.due(what + ": TURNS", turns, x.row(0));
+        Check.due(what + ": CELLS that are not FULL now", fresh, 0);
+        return would;
     }
 
     /** GRID 3; FULL are 0 (TURN 1), 1 (TURN -1), 3 (TURN 1). */

@@ -236,6 +236,8 @@ public final class DoorsTest {
         Check.due("leads(12, 0, 0): it has no DOOR", x.leads(12, 0, 0), -2);
         Check.due("leads(0, 12, 0)", x.leads(0, 12, 0), -2);
         Check.due("leads(12, 12, 0): they are one", x.leads(12, 12, 0), 1);
+        Check.due("leads(4, 0, 2): no way on outside", x.leads(4, 0, 2), -2);
+        Check.due("leads(0, 2, 1): no way on outside", x.leads(0, 2, 1), -2);
         Check.due("leads(5, 0, 0)", x.leads(5, 0, 0), -1);
         Check.due("leads(0, 5, 0)", x.leads(0, 5, 0), -1);
         Check.due("leads(5, 5, 0)", x.leads(5, 5, 0), -1);

@@ -79,8 +79,13 @@ public final class PricesTest {
         lessOff("133131", 4);
         lessOff("331223", 4);
         lessOff("999911", 7);
-        lessOff("100999;910111", 6);
-        lessOff("010999;901111", 6);
+        // POINTS of each side and each corner are less OFF in these
+        lessOff("101132;910885", 9);
+        lessOff("911813", 3);
+        lessOff("440291;192473", 2);
+        lessOff("291282;290732", 5);
+        lessOff("157134;007974", 5);
+        lessOff("018861;901917", 6);
     }
 
     /** How many POINTS are less OFF, counted one by one. */

@@ -48,6 +48,11 @@ public final class PricesTest {
         atCorner("110111", 0, 0, 0);
         atCorner("101111", 4, 0, 4);
         atCorner("011111", 14, 4, 0);
+        // at PRICES 1 4 0 income is 17: 85 - 117, 119 - 104, 17
+        x = Check.exchange("921571");
+        x.grid(5);
+        Check.due("on side 2", x.best(), 10);
+        Check.row("on side 2", x, 1, 4, 32);
         x = Check.exchange("999911");
         // 9 times 36 - 11 PRICE 0, 4 - 11 PRICE 1, 4 - 11 PRICE 2: at (4, 0) 8 is the greatest, at (3, 0) 7
         Check.due("near a corner", x.best(), 12);
@@ -86,6 +91,9 @@ public final class PricesTest {
         lessOff("291282;290732", 5);
         lessOff("157134;007974", 5);
         lessOff("018861;901917", 6);
+        // beyond side 2 there would be more
+        lessOff("792971", 2);
+        lessOff("921571", 5);
     }
 
     /** How many POINTS are less OFF, counted one by one. */

@@ -628,17 +628,18 @@ public final class DoorWalk {
         if (n < 1 || n > MOST_YEARS) {
             return NONE;
         }
-        Grid g = now.grid;
+        // all of it is forgotten once it is told: it is done on the trial GRID alone
+        trial.copy(now.grid);
         int r = seed;
         for (int k = 0; k < n; k++) {
             r = nextDraw(r);
-            int p = drawn(r, g.points());
+            int p = drawn(r, trial.points());
             r = nextDraw(r);
-            layLabel(g.pointI(p), g.pointJ(p), drawn(r, GOODS));
+            trial.lay(trial.pointI(p), trial.pointJ(p), drawn(r, GOODS));
         }
-        g.survey();
-        row.tell(g.turns, doors.outers(g, 0), doors.outers(g, 1), doors.outers(g, 2));
-        return g.full;
+        trial.survey();
+        row.tell(trial.turns, doors.outers(trial, 0), doors.outers(trial, 1), doors.outers(trial, 2));
+        return trial.full;
     }
 
     // ---- kept
@@ -830,19 +831,10 @@ public final class DoorWalk {
     // ---- changes that a call or A DAY makes; these answer as the calls do and note nothing
 
     private int layLabel(int i, int j, int v) {
-        Grid g = now.grid;
-        if (!g.has(i, j) || !isGood(v)) {
-            return NONE;
+        int was = now.grid.lay(i, j, v);
+        if (was >= 0) {
+            now.rule.kind = BY_HAND;
         }
-        int was = g.labelAt(i, j);
-        if (was == v) {
-            return NOT_SO;
-        }
-        if (!g.canHave(i, j, v)) {
-            return CANT_BE;
-        }
-        g.put(i, j, v);
-        now.rule.kind = BY_HAND;
         return was;
     }
 
@@ -1117,6 +1109,22 @@ public final class DoorWalk {
 
         void put(int i, int j, int v) {
             putNumber(numberOf(i, j), v);
+        }
+
+        /** Answers as lays() does; nothing is put where that refuses. */
+        int lay(int i, int j, int v) {
+            if (!has(i, j) || !isGood(v)) {
+                return NONE;
+            }
+            int was = labelAt(i, j);
+            if (was == v) {
+                return NOT_SO;
+            }
+            if (!canHave(i, j, v)) {
+                return CANT_BE;
+            }
+            put(i, j, v);
+            return was;
         }
 
         // ---- CELLS

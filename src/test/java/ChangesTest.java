@@ -20,6 +20,9 @@ public final class ChangesTest {
         undoOfEight();
         years();
         yearsAreForgotten();
+        yearsLeaveTheRule();
+        yearsAnswerOfThen();
+        yearsRefused();
         Check.finish();
     }
 
@@ -351,30 +354,57 @@ public final class ChangesTest {
                 Check.due("years(" + seed + ", " + n + ")", full, y.full());
                 long turns = y.row(0);
                 Check.row("years(" + seed + ", " + n + ")", x, turns, y.outer(0), y.outer(1), y.outer(2));
-                Check.told("years(" + seed + ", " + n + ")", x, Check.told(y));
+                Check.told("years(" + seed + ", " + n + ") is forgotten", x, FIRST);
             }
         }
-        // R 12345: POINT 0; then (12345 1103515245 + 12345) without sign by 65536 % 3: (0, 0) can't have another LABEL
-        DoorWalk x = Check.exchange("111111");
-        x.years(0, 1);
-        Check.due("what is refused is not done: RULE stays", x.count(3), 1);
-        x.years(1, 40);
-        Check.due("what is done is by hand", x.count(3), 0);
     }
 
     private static void yearsAreForgotten() {
         DoorWalk x = new DoorWalk();
         x.lays(1, 1, 1);
-        Check.due("years(5, 40)", x.years(5, 40) > 0, true);
-        Check.due("nothing of it can be undone", x.count(6), 1);
-        x.point(1, 2);
+        x.keep(0);
         String told = Check.told(x);
-        Check.due("years(5, 0)", x.years(5, 0), -1);
-        Check.due("years(5, 41)", x.years(5, 41), -1);
-        Check.due("years(5, -1)", x.years(5, -1), -1);
-        Check.row("the ROW stays", x, 1, 2, 1);
-        Check.told("refused", x, told);
+        int full = x.years(5, 40);
+        Check.due("years(5, 40) lays LABELS that make other CELLS FULL", full != x.count(5), true);
+        Check.told("years(5, 40) is forgotten", x, told);
+        Check.due("years(5, 40) once more", x.years(5, 40), full);
+        Check.due("nothing of it can be undone", x.count(6), 1);
         Check.due("undo() goes back ahead of lays()", x.undo(), 0);
         Check.told("undone", x, FIRST);
+        x.years(5, 40);
+        Check.due("again(0)", x.again(0), true);
+        Check.told("what was kept is as it was kept", x, told);
+    }
+
+    private static void yearsLeaveTheRule() {
+        DoorWalk x = Check.exchange("911111;191111");
+        x.grid(16);
+        String told = Check.told(x);
+        for (int seed = 0; seed < 9; seed++) {
+            x.years(seed, 40);
+            Check.due("RULE is 1 still", x.count(3), 1);
+            Check.due("TRADERS are there still", x.count(4), 2);
+            Check.due("so is the GRID", x.count(0), 16);
+            Check.told("LABELS are by EXCHANGE", x, told);
+        }
+    }
+
+    private static void yearsAnswerOfThen() {
+        // R 12345 draws POINT 0, (0, 0): it can't have another LABEL; years(0, 1) is refused all it tries
+        DoorWalk x = new DoorWalk();
+        Check.due("years(0, 1)", x.years(0, 1), 1);
+        Check.row("years(0, 1)", x, 1, 1, 1, 1);
+        Check.due("years(0, 21)", x.years(0, 21), 3);
+        Check.due("lone() of the LABELS of a new object", x.lone(), 0);
+    }
+
+    private static void yearsRefused() {
+        DoorWalk x = new DoorWalk();
+        x.point(1, 2);
+        for (int n : new int[] {0, 41, -1, Integer.MAX_VALUE, Integer.MIN_VALUE}) {
+            Check.due("years(5, " + n + ")", x.years(5, n), -1);
+            Check.row("the ROW stays", x, 1, 2, 1);
+            Check.told("refused", x, FIRST);
+        }
     }
 }

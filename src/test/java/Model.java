@@ -978,13 +978,17 @@ final class Model {
         if (n < 1 || n > 40) {
             return NONE;
         }
+        // it is forgotten: what is told is told of the LABELS of then, and all is as it was ahead of the call
         int[] r = {seed};
+        var before = now.copy();
         for (int k = 0; k < n; k++) {
             P p = now.points().get(draw(r, now.points().size()));
             doLays(p.i, p.j, draw(r, 3));
         }
-        tell(now.turns(), now.outer(0).size(), now.outer(1).size(), now.outer(2).size());
-        return now.full().size();
+        var then = now;
+        now = before;
+        tell(then.turns(), then.outer(0).size(), then.outer(1).size(), then.outer(2).size());
+        return then.full().size();
     }
 
     private static int draw(int[] r, int n) {

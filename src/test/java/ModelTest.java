@@ -28,7 +28,7 @@ public final class ModelTest {
     }
 
     private void run() {
-        while (calls < CALLS_OF_AN_OBJECT - 60) {
+        while (calls < CALLS_OF_AN_OBJECT - 90) {
             act();
             seeRow();
             if (draw.nextInt(40) == 0 && m.now.n <= 6) {
@@ -242,7 +242,8 @@ public final class ModelTest {
                 same("amounts(" + t + " " + a + " " + v + ")", () -> x.amounts(t, a, v), () -> m.amounts(t, a, v));
             }
             case 12 -> same("undo()", x::undo, m::undo);
-            case 13, 14 -> years();
+            case 13 -> years();
+            case 14 -> layMany();
             case 15 -> same("keep(" + a + ")", () -> x.keep(a) ? 1 : 0, () -> m.keep(a) ? 1 : 0);
             default -> same("again(" + a + ")", () -> x.again(a) ? 1 : 0, () -> m.again(a) ? 1 : 0);
         }
@@ -264,6 +265,19 @@ public final class ModelTest {
         int from = draw.nextInt();
         int n = about(40);
         same("years(" + from + " " + n + ")", () -> x.years(from, n), () -> m.years(from, n));
+    }
+
+    /** Many LABELS by hand, as GRIDS above 10 can't be told as texts. */
+    private void layMany() {
+        if (calls > CALLS_OF_AN_OBJECT / 2) {
+            return;
+        }
+        for (int k = 0; k < 40; k++) {
+            var all = m.now.points();
+            Model.P p = all.get(draw.nextInt(all.size()));
+            int v = draw.nextInt(3);
+            same("lays(" + p + v + ")", () -> x.lays(p.i(), p.j(), v), () -> m.lays(p.i(), p.j(), v));
+        }
     }
 
     private void askWhatIf() {

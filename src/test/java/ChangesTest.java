@@ -376,11 +376,16 @@ public final class ChangesTest {
         Check.told("what was kept is as it was kept", x, told);
     }
 
-    private static void yearsLeaveTheRule() {
+    private static DoorWalk sixteen() {
         DoorWalk x = Check.exchange("911111;191111");
         x.grid(16);
-        String told = Check.told(x);
+        return x;
+    }
+
+    private static void yearsLeaveTheRule() {
+        String told = Check.told(sixteen());
         for (int seed = 0; seed < 9; seed++) {
+            DoorWalk x = sixteen();
             x.years(seed, 40);
             Check.due("RULE is 1 still", x.count(3), 1);
             Check.due("TRADERS are there still", x.count(4), 2);

@@ -24,6 +24,7 @@ public final class DoorWalk {
     private static final int MOST_YEARS = 40;
     private static final int MOST_ROW = 16;
     private static final int MOST_UNDONE = 8;
+    private static final int RING = MOST_UNDONE + 1;
     private static final int MOST_KEPT = 2;
     private static final int TRADER_SIGNS = 7;
 
@@ -1634,13 +1635,13 @@ public final class DoorWalk {
      * made when the ring first comes to them, and used again from then on.
      */
     private static final class History {
-        final State[] ring = new State[MOST_UNDONE + 1];
+        final State[] ring = new State[RING];
         int next = 0;
         int size = 0;
 
         /** Writes a state down in the spare place; it counts once it is held. */
         void note(State state) {
-            if (next < 0 || next >= ring.length) {
+            if (next < 0 || next >= RING) {
                 return;
             }
             if (ring[next] == null) {
@@ -1650,7 +1651,7 @@ public final class DoorWalk {
         }
 
         void hold() {
-            next = (next + 1) % ring.length;
+            next = (next + 1) % RING;
             size = Math.min(size + 1, MOST_UNDONE);
         }
 
@@ -1659,8 +1660,8 @@ public final class DoorWalk {
                 return false;
             }
             size--;
-            next = (next + MOST_UNDONE) % ring.length;
-            if (next >= 0 && next < ring.length && ring[next] != null) {
+            next = (next + MOST_UNDONE) % RING;
+            if (next >= 0 && next < RING && ring[next] != null) {
                 state.copy(ring[next]);
             }
             return true;

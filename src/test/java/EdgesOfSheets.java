@@ -20,6 +20,8 @@ final class EdgesOfSheets {
         bits();
         roundAbout();
         done();
+        ofNoEntries();
+        notInAll();
         nothingToUndo();
         ofAllPoints();
     }
@@ -198,6 +200,33 @@ final class EdgesOfSheets {
         others.is("as they are", x.sheet(1, INTS, 2, 2, -1), 0);
         others.is("one is so, one is not", x.sheet(1, INTS, 2, 2, 0), 1);
         others.is("none is so", x.sheet(1, INTS, 2, 1, 0), 2);
+    }
+
+    private static void ofNoEntries() {
+        Edge e = Edge.of(7, "entry by entry (RULE 0 then)");
+        for (Edge.Made made : new Edge.Made[] {Twins::byExchange, Twins::byMap}) {
+            DoorWalk x = made.make();
+            String before = Check.told(x);
+            int undone = x.count(6);
+            e.is("0 entries from 4", x.sheet(4, INTS, 0, 1, 0), 0);
+            e.is("0 entries: RULE", x.count(3), 0);
+            e.is("0 entries: finer()", x.finer(5), -3);
+            e.labels("0 entries", x, before);
+            e.is("0 entries: what can be undone", x.count(6), undone);
+        }
+    }
+
+    private static void notInAll() {
+        Edge e = Edge.of(7, "nothing changes but if it is done in all.");
+        // all of (1, 1), (1, 2), (2, 0), (2, 1), (3, 0) can have 0; (2, 1) is the fourth of them
+        for (Edge.Made made : new Edge.Made[] {Twins::byHand, Twins::byExchange, Twins::byMap}) {
+            e.tells("one POINT too few", made, x -> x.sheet(WITHIN, BYTES, 6, 0, 0), -4, 5, 1);
+            e.tells("one LABEL that can't be", made, x -> x.sheet(WITHIN, INTS, 5, 2, -1), -4, 3, 2);
+            DoorWalk x = made.make();
+            e.is("done in all", x.sheet(WITHIN, BYTES, 5, 0, 0) >= 0, true);
+            e.labels("done in all", x, Check.told(made.make()).substring(0, WITHIN) + "00000");
+            e.is("done in all: RULE", x.count(3), 0);
+        }
     }
 
     private static void nothingToUndo() {

@@ -8,6 +8,8 @@ import java.nio.file.Path;
 import java.util.Arrays;
 import java.util.Set;
 import java.util.TreeSet;
+import java.util.regex.Matcher;
+import java.util.regex.Pattern;
 import java.util.stream.Collectors;
 
 /** The public face, and what LANGUAGE.md says that can be seen from outside or by a word in the file. Runs in the project's root. */
@@ -29,6 +31,8 @@ public final class FaceTest {
         "->", "::", "catch", "finally", "synchronized", "assert", "double", "float", "package ", "static {", "import static",
         "Map<", "Object", "System.out", "Exact("};
 
+    private static final Pattern DIVISOR = Pattern.compile("[/%]=? *([A-Za-z0-9_.]+)");
+
     private FaceTest() {
     }
 
@@ -36,6 +40,7 @@ public final class FaceTest {
         face();
         inside();
         file();
+        divisors();
         Check.finish();
     }
 
@@ -88,6 +93,21 @@ public final class FaceTest {
         for (Field f : DoorWalk.class.getDeclaredFields()) {
             Check.due("final: " + f, Modifier.isFinal(f.getModifiers()), true);
         }
+    }
+
+    /** A divisor is a constant that is not 0, or tested in the very line. */
+    private static void divisors() throws IOException {
+        int found = 0;
+        for (String line : Files.readString(Path.of(FILE)).lines().filter(l -> !l.trim().startsWith("/") && !l.trim().startsWith("*")).toList()) {
+            Matcher m = DIVISOR.matcher(line.replaceAll("//.*", ""));
+            while (m.find()) {
+                String by = m.group(1);
+                boolean safe = by.matches("[1-9][0-9]*|GOODS|RING|TRADER_SIGNS") || line.contains(by + " < 1 ? ");
+                Check.due("divides by a constant or behind a test: " + line.trim(), safe, true);
+                found++;
+            }
+        }
+        Check.due("divisors were found", found > 0, true);
     }
 
     private static void file() throws IOException {
